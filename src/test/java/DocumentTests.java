@@ -12,10 +12,12 @@ final class DocumentTests {
         Check.test("promise 2: write with ifSeq", DocumentTests::writeIfSeq);
         Check.test("promise 2: write refuses", DocumentTests::writeRefuses);
         Check.test("promise 2: write is full by bytes", DocumentTests::writeFullByBytes);
+        Check.test("promise 2: a generation holds 240 bytes, not 241", DocumentTests::writeLastByte);
         Check.test("promise 2: write is full by SEQ", DocumentTests::writeFullBySeq);
         Check.test("promise 2: write's VERSION comes round", DocumentTests::writeVersionRound);
         Check.test("promise 2: the order of write's answers", DocumentTests::writeOrder);
         Check.test("promise 3: replica out of order", DocumentTests::replicaOrder);
+        Check.test("promise 3: replica and the 64 SEQ ahead", DocumentTests::replicaWindow);
         Check.test("promise 3: replica refuses", DocumentTests::replicaRefuses);
         Check.test("promise 3: replica is full", DocumentTests::replicaFull);
         Check.test("promise 4: fill", DocumentTests::fillGaps);
@@ -133,6 +135,24 @@ final class DocumentTests {
         Check.due("place in another", y.write(1, 0, 1L, -1), 13);
     }
 
+    private static void writeLastByte() {
+        ShardEngine x = new ShardEngine();
+        for (int i = 0; i < 16; i++) {
+            Check.due("8 INDEX, 8 DELETE", x.write(1 + i / 8, 0, SOURCE, -1), i);
+        }
+        Check.due("bytes", x.info(5), 240);
+        Check.due("full", x.write(2, 0, 1L, -1), -3);
+        ShardEngine y = new ShardEngine();
+        for (int i = 0; i < 25; i++) {
+            y.replica(3, 0, i, 0, 0L);
+        }
+        y.write(2, 0, 1L, -1);
+        y.write(2, 0, 1L, -1);
+        Check.due("bytes", y.info(5), 222);
+        Check.due("19 more are 241", y.write(1, 0, 1L, -1), -3);
+        Check.due("18 places left", y.write(2, 0, 1L, -1), 27);
+    }
+
     private static void writeFullBySeq() {
         ShardEngine x = new ShardEngine();
         x.replica(1, 0, 62, 1, SOURCE);
@@ -201,6 +221,26 @@ final class DocumentTests {
         Check.due("its version", x.known(2, 2), 60001);
         Check.due("lower version", x.replica(1, 2, 7, 1, 8L), 1);
         Check.due("its version", x.known(2, 2), 1);
+    }
+
+    private static void replicaWindow() {
+        ShardEngine x = new ShardEngine();
+        x.replica(3, 0, 63, 0, 0L);
+        x.replica(3, 0, 0, 0, 0L);
+        Check.due("seq 64 is not processed", x.replica(1, 0, 64, 1, SOURCE), 1);
+        Check.due("seq 63 is", x.replica(1, 0, 63, 1, SOURCE), 0);
+        Check.due("seq 62 is not", x.replica(1, 0, 62, 1, SOURCE), 2);
+        ShardEngine y = new ShardEngine();
+        for (int seq = 63; seq > 0; seq--) {
+            if (y.info(5) > 232) {
+                y.sync(true);
+            }
+            Check.due("replica", y.replica(3, 0, seq, 0, 0L), 2);
+        }
+        Check.due("checkpoint", y.info(1), -1);
+        Check.due("the last one", y.replica(3, 0, 0, 0, 0L), 2);
+        Check.due("over all 64", y.info(1), 63);
+        Check.due("none ahead", y.replica(3, 0, 64, 0, 0L), 2);
     }
 
     private static void replicaRefuses() {
@@ -368,6 +408,11 @@ final class DocumentTests {
         Check.due("still a tombstone", x.known(2, 0), 2);
         x.refresh();
         Check.due("forgotten now", x.known(2, 0), 0);
+        x.write(2, 0, 0L, -1);
+        x.write(2, 15, 0L, -1);
+        x.refresh();
+        Check.due("the first id", x.known(0, 0), 0);
+        Check.due("the last id", x.known(15, 0), 0);
         x.write(1, 1, 5L, -1);
         Check.due("the version begins anew", x.known(1, 2), 1);
         x.write(2, 1, 0L, -1);

@@ -113,6 +113,7 @@ final class LogTests {
 
     private static void flushAll() {
         ShardEngine x = new ShardEngine();
+        Check.due("an empty one, nothing processed", new ShardEngine().flush(), 1);
         x.write(1, 0, SOURCE, -1);
         x.write(2, 1, 0L, -1);
         Check.due("one", x.flush(), 1);

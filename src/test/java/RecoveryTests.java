@@ -407,9 +407,9 @@ final class RecoveryTests {
         x.crash(0);
         Check.due("recover", x.recover(-1), 1);
         Check.due("max", x.info(0), 5);
+        Check.due("seq 0 1 3 4 and 5 itself", x.fill(), 5);
+        Check.due("checkpoint", x.info(1), 5);
         Check.due("the next SEQ", x.write(1, 4, 1L, -1), 6);
-        Check.due("seq 0 1 3 4 5", x.fill(), 5);
-        Check.due("checkpoint", x.info(1), 6);
         Check.due("the commit's", x.known(3, 1), 5);
     }
 }

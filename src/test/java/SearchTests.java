@@ -175,7 +175,7 @@ final class SearchTests {
         query(x, AND, 0, 0, NOT, 0, 0, WORD, 1, 0, NOT, 0, 0, WORD, 3, 0);
         hits(x, 1, 0);
         x.write(1, 11, Sources.source(0, 1, 0, 5), -1);
-        x.write(1, 12, Sources.source(0, 9, 8, 7, 6, 5, 4, 3, 2), -1);
+        x.write(1, 12, Sources.source(0xD, 9, 8, 7, 6, 5, 4, 3, 2), -1);
         x.refresh();
         query(x, WORD, 5, 0);
         hits(x, 0, 12);
@@ -183,6 +183,10 @@ final class SearchTests {
         hits(x, 0, 12);
         query(x, WORD, 2, 0);
         hits(x, 0, 9, 12);
+        query(x, WORD, 0xD, 0);
+        hits(x, 0);
+        query(x, PHRASE, 2, 0xD);
+        hits(x, 0);
     }
 
     private static void afterKeys() {
@@ -194,6 +198,10 @@ final class SearchTests {
         Check.due("last", x.after(0, 1, 2), -1);
         Check.due("before all", x.after(0, Integer.MAX_VALUE, Integer.MAX_VALUE), 9);
         Check.due("any id", x.after(0, 3, Integer.MIN_VALUE), 9);
+        query(x, NOT, 0, 0, WORD, 1, 0);
+        Check.due("scores 0 0", x.after(0, 1, 0), 0);
+        Check.due("scores 0 0", x.after(0, 0, 0), 4);
+        Check.due("scores 0 0", x.after(0, 0, 4), -1);
         query(x, ALL, 0, 0);
         Check.due("by number", x.after(1, Integer.MIN_VALUE, 0), 9);
         Check.due("by number", x.after(1, -5, 9), 2);
