@@ -275,6 +275,13 @@ final class RecoveryTests {
         x.crash(0);
         Check.due("a whole DELETE, but then broken bytes", x.recover(-1), -5);
         Check.due("it comes first", x.recover(0), -4);
+        ShardEngine y = new ShardEngine();
+        y.replica(1, 1, 0, 1, SOURCE);
+        y.replica(1, 1, 1, 1, SOURCE);
+        Sources.forge(y, 0, 19, 4, 16);
+        y.crash(38);
+        Check.due("id 16 behind synced bytes", y.recover(-1), 1);
+        Check.due("cut off", y.info(5), 19);
     }
 
     private static void wholeInGeneration() {
