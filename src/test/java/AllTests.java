@@ -10,7 +10,13 @@ public final class AllTests {
         RecoveryTests.run();
         SearchTests.run();
         InfoTests.run();
+        TermSentences.run();
+        WriteSentences.run();
+        LogSentences.run();
+        RecoverySentences.run();
+        SearchSentences.run();
         ModelTests.run();
+        Sentence.compareWithDocument();
         System.out.println(Check.passed + " passed, " + Check.failed + " failed");
         if (Check.failed != 0) {
             System.exit(1);

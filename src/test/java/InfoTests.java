@@ -8,7 +8,8 @@ final class InfoTests {
         Check.test("promise 17: info while down", InfoTests::whileDown);
         Check.test("promise 17: info refuses", InfoTests::refuses);
         Check.test("terms: DOWN", InfoTests::downAnswers);
-        Check.test("the constants", InfoTests::constants);
+        Sentence.test("face", "public static final int REFUSED = -1, CONFLICT = -2, FULL = -3, DOWN = -4, CORRUPT = "
+            + "-5;", "each", InfoTests::constants);
     }
 
     private static void infos(ShardEngine x, int... want) {

@@ -15,6 +15,21 @@ final class Sources {
         return source;
     }
 
+    /** A shard whose only generation has so many bytes (70 or more), of records with SEQ 0, 1, .. in this order. */
+    static ShardEngine filled(int bytes) {
+        ShardEngine x = new ShardEngine();
+        int deletes = 0;
+        while ((bytes - 11 * deletes) % 8 != 0) {
+            deletes++;
+        }
+        int count = deletes + (bytes - 11 * deletes) / 8;
+        for (int seq = 0; seq < count; seq++) {
+            x.replica(seq < deletes ? DELETE : NOTHING, 15, seq, 1, 0L);
+        }
+        Check.due("bytes", x.info(5), bytes);
+        return x;
+    }
+
     static int byteAt(ShardEngine x, int generation, int at) {
         return x.flip(generation, at, 0);
     }
