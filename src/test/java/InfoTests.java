@@ -1,4 +1,4 @@
-/** Promise 17: info, and what DOWN answers. */
+/** Promise 17: info, and the constants. */
 final class InfoTests {
     private InfoTests() {
     }
@@ -7,7 +7,6 @@ final class InfoTests {
         Check.test("promise 17: info", InfoTests::values);
         Check.test("promise 17: info while down", InfoTests::whileDown);
         Check.test("promise 17: info refuses", InfoTests::refuses);
-        Check.test("terms: DOWN", InfoTests::downAnswers);
         Sentence.test("face", "public static final int REFUSED = -1, CONFLICT = -2, FULL = -3, DOWN = -4, CORRUPT = "
             + "-5;", "each", InfoTests::constants);
     }
@@ -53,28 +52,6 @@ final class InfoTests {
         }
         x.crash(0);
         Check.due("info(11) while down", x.info(11), -1);
-    }
-
-    private static void downAnswers() {
-        ShardEngine x = shard();
-        x.ask(0, 0, 0);
-        x.crash(0);
-        Check.due("write", x.write(1, 0, 1L, -1), -4);
-        Check.due("replica", x.replica(1, 0, 20, 1, 1L), -4);
-        Check.due("fill", x.fill(), -4);
-        Check.due("get", x.get(0), -4);
-        Check.due("known", x.known(0, 0), -4);
-        Check.due("refresh", x.refresh(), -4);
-        Check.due("sync", x.sync(false), -4);
-        Check.due("sync", x.sync(true), -4);
-        Check.due("flush", x.flush(), -4);
-        Check.due("crash", x.crash(0), -4);
-        Check.due("hit", x.hit(0, -1), -4);
-        Check.due("after", x.after(0, 9, 0), -4);
-        Check.due("score", x.score(0), -4);
-        Check.due("ask", x.ask(0, 0, 0), 2);
-        Check.due("flip", x.flip(1, 0, 0), 14);
-        Check.due("bytes", x.info(5), 19);
     }
 
     private static void constants() {

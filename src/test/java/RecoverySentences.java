@@ -161,6 +161,11 @@ final class RecoverySentences {
         x.sync(false);
         Sources.recovered(x);
         Check.due("a greater one", x.info(0), 10);
+        Sources.forge(x, 1, 0, 2, 5);
+        Sources.recovered(x);
+        Check.due("the commit's again", x.info(0), 9);
+        Check.due("4 and 5 are processed, 9 itself is not", x.fill(), 8);
+        Check.due("CHECKPOINT", x.info(1), 9);
     }
 
     private static void goesThroughAll() {

@@ -1,12 +1,5 @@
 /** Sentences of the terms on queries, scores and sorts, and of promises 13 to 16: ask, hit, after, score. */
-final class SearchSentences {
-    private static final int ALL = 0;
-    private static final int WORD = 1;
-    private static final int PHRASE = 2;
-    private static final int RANGE = 3;
-    private static final int AND = 4;
-    private static final int OR = 5;
-    private static final int NOT = 6;
+final class SearchSentences extends Queries {
     private static final int LEAST = Integer.MIN_VALUE;
     private static final int GREATEST = Integer.MAX_VALUE;
     private static final String TERMS = "terms";
@@ -91,22 +84,6 @@ final class SearchSentences {
         return x;
     }
 
-    /** Replaces the query by tokens (kind, a, b). */
-    private static void query(ShardEngine x, int... tokens) {
-        x.ask(7, 0, 0);
-        for (int i = 0; i < tokens.length; i += 3) {
-            Check.due("ask", x.ask(tokens[i], tokens[i + 1], tokens[i + 2]), i / 3 + 1);
-        }
-    }
-
-    private static void found(String what, ShardEngine x, int sort, int... ids) {
-        Check.due(what + ": how many", x.hit(sort, -1), ids.length);
-        for (int k = 0; k < ids.length; k++) {
-            Check.due(what + ": hit " + k, x.hit(sort, k), ids[k]);
-        }
-        Check.due(what + ": one more", x.hit(sort, ids.length), -1);
-    }
-
     private static void tokens() {
         ShardEngine x = shard(0L, 1L);
         found("one", askedKinds(x, ALL), 0, 0, 1);
@@ -173,7 +150,7 @@ final class SearchSentences {
 
     private static void phrase() {
         ShardEngine x = shard(Sources.source(0, 1, 15), Sources.source(0, 15, 1), Sources.source(0, 1, 2, 15),
-            Sources.source(0, 1, 0, 15), Sources.source(15, 0, 0, 0, 0, 0, 0, 0, 1),
+            Sources.source(0, 1, 0, 15), Sources.source(15, 2, 2, 2, 2, 2, 2, 2, 1),
             Sources.source(0, 2, 2, 2, 2, 2, 2, 1, 15), Sources.source(15 << 28, 1, 15));
         int[][] none = {{0, 1}, {1, 0}, {16, 1}, {1, 16}, {-1, 1}, {1, -1}, {LEAST, 1}, {1, GREATEST}};
         for (int[] p : none) {

@@ -1,13 +1,5 @@
 /** Promises 13 to 16: ask, hit, after, score. */
-final class SearchTests {
-    private static final int ALL = 0;
-    private static final int WORD = 1;
-    private static final int PHRASE = 2;
-    private static final int RANGE = 3;
-    private static final int AND = 4;
-    private static final int OR = 5;
-    private static final int NOT = 6;
-
+final class SearchTests extends Queries {
     private SearchTests() {
     }
 
@@ -38,20 +30,8 @@ final class SearchTests {
         return x;
     }
 
-    /** Replaces the query by tokens (kind, a, b). */
-    private static void query(ShardEngine x, int... tokens) {
-        x.ask(7, 0, 0);
-        for (int i = 0; i < tokens.length; i += 3) {
-            Check.due("ask", x.ask(tokens[i], tokens[i + 1], tokens[i + 2]), i / 3 + 1);
-        }
-    }
-
     private static void hits(ShardEngine x, int sort, int... ids) {
-        Check.due("hit(" + sort + ", -1)", x.hit(sort, -1), ids.length);
-        for (int k = 0; k < ids.length; k++) {
-            Check.due("hit(" + sort + ", " + k + ")", x.hit(sort, k), ids[k]);
-        }
-        Check.due("hit(" + sort + ", " + ids.length + ")", x.hit(sort, ids.length), -1);
+        found("sort " + sort, x, sort, ids);
     }
 
     private static void askCounts() {
