@@ -2,6 +2,7 @@
 final class ModelTests {
     private static final int RUNS = 3000;
     private static final int CALLS = 512;
+    private static final int MOST_OF_A_STEP = 150;
 
     private long state;
     private ShardEngine x = new ShardEngine();
@@ -26,7 +27,7 @@ final class ModelTests {
 
     private void longRun(int seed) {
         int mood = next(4);
-        while (calls < CALLS - 60 && Check.allRight()) {
+        while (calls < CALLS - MOST_OF_A_STEP && Check.allRight()) {
             step(mood);
             if (next(12) == 0) {
                 look();
