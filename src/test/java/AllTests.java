@@ -15,6 +15,7 @@ public final class AllTests {
         LogSentences.run();
         RecoverySentences.run();
         SearchSentences.run();
+        UseTests.run();
         ModelTests.run();
         Sentence.compareWithDocument();
         System.out.println(Check.passed + " passed, " + Check.failed + " failed");

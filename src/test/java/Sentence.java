@@ -52,7 +52,7 @@ final class Sentence {
         }
     }
 
-    private static String documentText() {
+    static String documentText() {
         try {
             return Files.readString(DOCUMENT);
         } catch (IOException e) {
